@@ -20,6 +20,7 @@ public final class HoopLane {
     private final Row[] rows = new Row[ROWS];
     private final Lane[] images = new Lane[IMAGES];
     private final Lane lane = new Lane();
+    /** What is read, till it is known to have no FAULT. */
     private final Lane read = new Lane();
     private final Tape tape = new Tape();
     private final Acts acts = new Acts();
@@ -336,7 +337,7 @@ public final class HoopLane {
         if (isOut(what, 0, 1)) {
             return BAD;
         }
-        // YARD 0 is never ahead of the hoop, so it stands for all YARDS whose mending changes nothing.
+        // YARD 0 is never ahead of the hoop: it is the first of all YARDS whose mending changes nothing.
         paths.walk(lane, lane.hoop, 1, 0, Paths.FAR);
         int fewest = paths.cost();
         int where = 0;

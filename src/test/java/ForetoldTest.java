@@ -15,6 +15,8 @@ public final class ForetoldTest {
         who();
         seenRefused();
         whoRefused();
+        theLastRow();
+        theEnds();
         falls();
         mend();
         miss();
@@ -304,6 +306,33 @@ public final class ForetoldTest {
         Due.is("HOME, ahead of PLACE", Due.STATE, x.who(0, 0, -1, 1));
     }
 
+    private static void theLastRow() {
+        HoopLane x = Due.told("h9,2,1,1;gffffffff;v1;");
+        Due.fill(x, 7, 0, 0, 4, 7);
+        Due.is("copy(7, 0, 7, 0, 3)", 3, x.copy(7, 0, 7, 0, 3));
+        Due.is("plan(7, 0, 1, 0)", 1, x.plan(7, 0, 1, 0));
+        Due.is("seen(7, 1, 2, 0)", 512, x.seen(7, 1, 2, 0));
+        Due.is("who(0, 7, 1, 1)", 2 + 4 + 8, x.who(0, 7, 1, 1));
+        Due.is("miss(7, 0, 1, 5, 1)", 1, x.miss(7, 0, 1, 5, 1));
+    }
+
+    /** The least and the most that YARD, PACE and LEAN can be. */
+    private static void theEnds() {
+        HoopLane x = Due.told("h5,2,5,0;gff;");
+        x.setUp(1, 1, -5);
+        Due.is("on the last YARD", 0, x.fewest(0));
+        x.setUp(0, 2, 5);
+        Due.is("it goes DOWN by its LEAN", Due.NONE, x.fewest(0));
+        x.setUp(0, 3, -5);
+        Due.is("HOME at once", 1, x.soonest(0));
+        Due.read(x, "h5,2,5,0;gf;");
+        x.setUp(0, 1, -5);
+        Due.is("the least of all", 0, x.fewest(0));
+        Due.read(x, "h5,2,5,0;gffffffffffffffffffffffff;");
+        x.setUp(23, 9, 5);
+        Due.is("the most of all", 0, x.fewest(0));
+    }
+
     private static void falls() {
         HoopLane x = new HoopLane();
         Due.is("falls, no LANE", Due.STATE, x.falls());
@@ -313,6 +342,7 @@ public final class ForetoldTest {
         Due.is("nowhere", 0, Due.told("h9,2,1,0;gfff;v3;").falls());
         Due.is("at the last YARD", 1 << 23, lastYard().falls());
         Due.read(x, "h2,2,1,1;gfff;b1;");
+        Due.is("ahead of it", 2 + 4, x.falls());
         x.moment(0);
         Due.is("DOWN", 0, x.falls());
         x.setUp(2, 9, 0);
@@ -347,6 +377,8 @@ public final class ForetoldTest {
         mend("h5,2,2,0;gffsfsffff;i2;", 2, 0);
         mend("h5,2,1,0;gffffsffs;v1;", 4, 0);
         mend("h1,2,1,1;gffsf;v3;", 2, 1);
+        // The YARD next to it.
+        mend("h2,2,1,0;gfs;", 1, 0);
         Due.read(x, "h5,2,1,0;gffsfff;v1;");
         Due.is("mend(-1)", Due.BAD, x.mend(-1));
         Due.is("mend(2)", Due.BAD, x.mend(2));

@@ -6,6 +6,7 @@ public final class MomentsTest {
         slow();
         ends();
         refused();
+        full();
         setUp();
         lay();
         undo();
@@ -116,6 +117,21 @@ public final class MomentsTest {
         Due.is("moment, HOME", Due.STATE, x.moment(-1));
         Due.is("BAD ahead of HOME", Due.BAD, x.moment(2));
         Due.is("ACTS", 3, x.count(6));
+    }
+
+    /** MOMENT 999 comes after more calls than are promised: tested all the same, as the document names it. */
+    private static void full() {
+        HoopLane x = Due.told("h1,2,1,0;grrrrrrrrrrrr;");
+        for (int k = 0; k < 999; k++) {
+            if (k % 11 == 0) {
+                x.setUp(0, 1, 0);
+            }
+            Due.is("moment " + k, k % 11 + 1, x.moment(-1));
+        }
+        Due.hoop("at MOMENT 999", x, 9, 1, -1, 0, 999);
+        Due.is("BAD ahead of FULL", Due.BAD, x.moment(0));
+        Due.is("moment, FULL", Due.FULL, x.moment(-1));
+        Due.hoop("as it was", x, 9, 1, -1, 0, 999);
     }
 
     private static void setUp() {

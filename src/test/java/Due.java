@@ -5,17 +5,38 @@ final class Due {
 
     private static int wrong = 0;
     private static int right = 0;
+    private static String sentence = "";
+    private static boolean tested = true;
 
     private Due() {
     }
 
+    /** The test of one sentence of the document begins: its part, its words. SentencesTest finds them there. */
+    static void says(String part, String words) {
+        endSentence();
+        sentence = part + " \"" + words + "\": ";
+        tested = false;
+    }
+
+    private static void endSentence() {
+        if (!tested) {
+            wrong++;
+            System.out.println(sentence + "nothing is tested");
+        }
+    }
+
     static void is(String call, long due, long answer) {
+        tested = true;
         if (due == answer) {
             right++;
         } else {
             wrong++;
-            System.out.println(call + " answered " + answer + ", due is " + due);
+            System.out.println(sentence + call + " answered " + answer + ", due is " + due);
         }
+    }
+
+    static void holds(String what, boolean it) {
+        is(what, 1, it ? 1 : 0);
     }
 
     static void feed(HoopLane x, String text) {
@@ -54,6 +75,7 @@ final class Due {
     }
 
     static void end() {
+        endSentence();
         System.out.println(right + " answers as due, " + wrong + " not");
         if (wrong != 0 || right == 0) {
             System.exit(1);

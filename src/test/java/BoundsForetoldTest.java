@@ -198,6 +198,10 @@ public final class BoundsForetoldTest {
         Due.is("5, by the LEAN that it has", 5, Due.told("h1,3,1,1;gfff;").heldFrom());
         Due.is("9", 9, Due.told("h1,2,1,3;gffffffff;").heldFrom());
         Due.is("by no PACE", Due.NONE, Due.told("h9,2,1,3;gfffffffffffff;").heldFrom());
+        // By 9 it comes to 4, 7, and DOWN at 9 of 10; one more would hold it.
+        Due.is("9 is the most", Due.NONE, Due.told("h9,2,1,3;gffffffffff;").heldFrom());
+        // By each PACE it falls on the stones next to it, or on that at 8; from YARD 1 on it would not.
+        Due.is("not from the next YARD", Due.NONE, Due.told("h9,2,1,0;gfsssffffsf;v5;").heldFrom());
         Due.is("from where it is", 3, Given.standing("h1,2,1,3;gffffffff;", 6, 1, 0).heldFrom());
         // Its LEAN is beyond HOLDS, as read: it is held where it is HOME at once.
         Due.is("LEAN beyond HOLDS", 6, Due.told("h1,4,1,0;gfff;").heldFrom());
@@ -249,6 +253,7 @@ public final class BoundsForetoldTest {
         Due.is("nowhere", 0, Due.told("h9,2,1,0;gfff;v3;").falls());
         Due.is("nowhere, of the last YARD", 0, Given.standing("h2,2,1,1;" + FLAT, 23, 1, 0).falls());
         HoopLane x = Due.told("h2,2,1,1;gfff;b1;");
+        Due.is("from YARD 0 on", 1 << 1 | 1 << 2, x.falls());
         x.moment(-1);
         Due.is("from now on", 1 << 2, x.falls());
     }
@@ -256,6 +261,7 @@ public final class BoundsForetoldTest {
     private static void fallsNone() {
         Due.says("3", "(none, if it is DOWN, HOME).");
         HoopLane x = Due.told("h2,2,1,1;gffffff;b1;");
+        Due.is("not DOWN", 1 << 1 | 1 << 2, x.falls());
         x.moment(0);
         Due.is("it is DOWN", 1, x.hoop(3));
         Due.is("DOWN", 0, x.falls());
@@ -274,6 +280,10 @@ public final class BoundsForetoldTest {
             + "fewest TAPS,");
         mend("h5,2,1,0;gffsffff;v1;", 2, 0);
         mend("h2,2,1,0;gfs;", 1, 0);
+        // Four TAPS, where by none it was HOME; two, where it was by three.
+        mend("h1,2,3,1;guuffr;v1;", 1, 4);
+        mend("h3,2,1,1;gfsuffsf;i2;", 2, 2);
+        fewest("h3,2,1,1;gfsuffsf;i2;", 3, 0);
         // None does better: then YARD 0 as any, that is flat or not.
         mend("h5,2,1,0;gffffff;", 0, 0);
         mend("h5,2,1,0;gsfffff;", 0, 0);

@@ -377,6 +377,9 @@ public final class BoundsPlansTest {
         missed(x, 0, 3, 3, 91, 100);
         missed(x, 0, 3, 5, 3, 4);
         missed(x, 0, 3, 9, 19, 100);
+        // The one that comes behind none.
+        Due.fill(x, 0, 0, -1, 0);
+        missed(x, 0, 2, 3, 7, 10);
         // Both are wanted.
         x = Due.told("h1,2,1,1;grrr;v1;");
         Due.fill(x, 0, 0, 0, 0, -1);

@@ -7,6 +7,7 @@ import java.nio.file.Path;
 import java.util.Arrays;
 import java.util.List;
 import java.util.TreeSet;
+import java.util.function.Supplier;
 import java.util.regex.Matcher;
 import java.util.regex.Pattern;
 
@@ -24,16 +25,18 @@ public final class LanguageTest {
         "native", "volatile", "transient", "var", "goto", "System\\.(?!arraycopy)\\w+", "\\w+Exact", "equals", "hashCode",
         "toString", "Object", "Thread", "Random", "protected"};
 
+    /** The first line of a method of the class, or of one inside it. */
+    private static final String METHOD = "( {4}| {8})(?!for |while |if |switch |else |do )\\w.*\\(.*\\{";
+
     public static void main(String[] args) throws Exception {
         face();
         classes();
         constants();
-        text(Files.readString(Path.of("src/main/java/HoopLane.java"), StandardCharsets.ISO_8859_1));
+        String source = Files.readString(Path.of("src/main/java/HoopLane.java"), StandardCharsets.ISO_8859_1);
+        text(source);
+        made(source);
+        anyArguments();
         Due.end();
-    }
-
-    private static void holds(String what, boolean it) {
-        Due.is(what, 1, it ? 1 : 0);
     }
 
     private static String signed(Method method) {
@@ -43,28 +46,28 @@ public final class LanguageTest {
 
     private static void face() {
         Class<?> c = HoopLane.class;
-        holds("public and final", Modifier.isPublic(c.getModifiers()) && Modifier.isFinal(c.getModifiers()));
-        holds("of no other class", c.getSuperclass() == Object.class && c.getInterfaces().length == 0);
-        holds("no package", c.getPackageName().isEmpty());
-        holds("one constructor", c.getDeclaredConstructors().length == 1 && c.getConstructors().length == 1
+        Due.holds("public and final", Modifier.isPublic(c.getModifiers()) && Modifier.isFinal(c.getModifiers()));
+        Due.holds("of no other class", c.getSuperclass() == Object.class && c.getInterfaces().length == 0);
+        Due.holds("no package", c.getPackageName().isEmpty());
+        Due.holds("one constructor", c.getDeclaredConstructors().length == 1 && c.getConstructors().length == 1
             && c.getConstructors()[0].getParameterCount() == 0);
         TreeSet<String> open = new TreeSet<>();
         for (Method method : c.getDeclaredMethods()) {
             if (!Modifier.isPrivate(method.getModifiers())) {
-                holds(method + " is of the object", !Modifier.isStatic(method.getModifiers()));
+                Due.holds(method + " is of the object", !Modifier.isStatic(method.getModifiers()));
                 open.add(signed(method));
             }
         }
-        holds("the methods of the face, and no other: " + open, open.equals(new TreeSet<>(List.of(FACE))));
+        Due.holds("the methods of the face, and no other: " + open, open.equals(new TreeSet<>(List.of(FACE))));
         TreeSet<String> fields = new TreeSet<>();
         for (Field field : c.getDeclaredFields()) {
             if (!Modifier.isPrivate(field.getModifiers())) {
                 fields.add(field.getName());
-                holds(field + " is a constant", field.getModifiers() == (Modifier.PUBLIC | Modifier.STATIC | Modifier.FINAL)
+                Due.holds(field + " is a constant", field.getModifiers() == (Modifier.PUBLIC | Modifier.STATIC | Modifier.FINAL)
                     && field.getType() == int.class);
             }
         }
-        holds("the constants, and no other: " + fields, fields.equals(new TreeSet<>(List.of("NONE", "BAD", "STATE", "FULL"))));
+        Due.holds("the constants, and no other: " + fields, fields.equals(new TreeSet<>(List.of("NONE", "BAD", "STATE", "FULL"))));
     }
 
     private static void classes() {
@@ -73,10 +76,10 @@ public final class LanguageTest {
             open.add(signature.replaceAll("\\w+ (\\w+)\\(.*", "$1"));
         }
         Class<?>[] inside = HoopLane.class.getDeclaredClasses();
-        holds("at most twelve classes", inside.length < 12);
+        Due.holds("at most twelve classes", inside.length < 12);
         for (Class<?> c : inside) {
-            holds(c + " is static and not public", Modifier.isStatic(c.getModifiers()) && !Modifier.isPublic(c.getModifiers()));
-            holds(c + " has no classes", c.getDeclaredClasses().length == 0);
+            Due.holds(c + " is static and not public", Modifier.isStatic(c.getModifiers()) && !Modifier.isPublic(c.getModifiers()));
+            Due.holds(c + " has no classes", c.getDeclaredClasses().length == 0);
             checkClass(c, open, false);
         }
         checkClass(HoopLane.class, open, true);
@@ -84,19 +87,19 @@ public final class LanguageTest {
 
     private static void checkClass(Class<?> c, TreeSet<String> open, boolean outer) {
         for (Method method : c.getDeclaredMethods()) {
-            holds(method + ": at most seven parameters", method.getParameterCount() <= 7);
+            Due.holds(method + ": at most seven parameters", method.getParameterCount() <= 7);
             boolean isPrivate = !outer || Modifier.isPrivate(method.getModifiers());
-            holds(method + ": not the name of a public one", !isPrivate || !open.contains(method.getName()));
+            Due.holds(method + ": not the name of a public one", !isPrivate || !open.contains(method.getName()));
         }
         int fields = 0;
         for (Field field : c.getDeclaredFields()) {
             if (Modifier.isStatic(field.getModifiers())) {
-                holds(field + " is final", Modifier.isFinal(field.getModifiers()));
+                Due.holds(field + " is final", Modifier.isFinal(field.getModifiers()));
             } else {
                 fields++;
             }
         }
-        holds(c + ": at most twenty fields", fields <= 20);
+        Due.holds(c + ": at most twenty fields", fields <= 20);
     }
 
     private static void constants() {
@@ -109,29 +112,100 @@ public final class LanguageTest {
     private static void text(String source) {
         for (int k = 0; k < source.length(); k++) {
             if (source.charAt(k) > 126) {
-                holds("a sign that is not ASCII at " + k, false);
+                Due.holds("a sign that is not ASCII at " + k, false);
             }
         }
         String code = source.replaceAll("(?s)/\\*.*?\\*/", "").replaceAll("//[^\n]*", "").replaceAll("'(\\\\.|.)'", "0");
         for (String word : REFUSED) {
             Matcher m = Pattern.compile("\\b" + word + "\\b").matcher(code);
-            holds("no " + word, !m.find());
+            Due.holds("no " + word, !m.find());
         }
-        holds("no lambda, no method reference", !code.contains("->") && !code.contains("::"));
-        holds("no text", !code.contains("\""));
+        Due.holds("no lambda, no method reference", !code.contains("->") && !code.contains("::"));
+        Due.holds("no text", !code.contains("\""));
         Matcher imports = Pattern.compile("import ([^;]*);").matcher(code);
         while (imports.find()) {
-            holds("import " + imports.group(1), imports.group(1).equals("java.util.Arrays"));
+            Due.holds("import " + imports.group(1), imports.group(1).equals("java.util.Arrays"));
         }
         int start = 0;
         String[] lines = source.split("\n");
         for (int k = 0; k < lines.length; k++) {
-            if (lines[k].matches("( {4}| {8})\\w.*\\(.*\\{")) {
+            if (lines[k].matches(METHOD)) {
                 start = k;
             }
             if (lines[k].matches("( {4}| {8})\\}")) {
-                holds("line " + (start + 1) + ": at most sixty lines", k - start < 60 || lines[start].contains("class"));
+                Due.holds("line " + (start + 1) + ": at most sixty lines", k - start < 60 || lines[start].contains("class"));
             }
         }
+    }
+
+    /** No call makes an object: what is made stands in a field's initialiser, or in a constructor. */
+    private static void made(String source) {
+        String in = "";
+        for (String line : source.split("\n")) {
+            if (line.matches(METHOD)) {
+                in = line.trim();
+            }
+            boolean isField = line.matches("( {4}| {8})(private )?(static )?final .*");
+            boolean isConstructor = in.matches("(public HoopLane|Acts)\\(\\) \\{");
+            if (line.matches(".*\\bnew\\b.*") && !line.matches(" *(/?\\*|//).*")) {
+                Due.holds("made within a call: " + line.trim(), isField || isConstructor);
+            }
+        }
+    }
+
+    /** Rule 7: no call throws, whatever its arguments, in whatever state. */
+    private static void anyArguments() {
+        List<Supplier<HoopLane>> states = List.of(HoopLane::new, Given::noLane, Given::rolling, Given::down, Given::home,
+            LanguageTest::most);
+        int[] many = {Integer.MIN_VALUE, -1000001, -2, -1, 0, 1, 2, 4, 5, 7, 8, 9, 16, 23, 24, 39, 40, 41, 256,
+            Integer.MAX_VALUE - 1, Integer.MAX_VALUE};
+        int[] some = {Integer.MIN_VALUE, -1, 0, 1, 7, 24, Integer.MAX_VALUE};
+        for (Method method : HoopLane.class.getMethods()) {
+            if (method.getDeclaringClass() == HoopLane.class) {
+                for (Supplier<HoopLane> state : states) {
+                    callAll(method, state, method.getParameterCount() > 3 ? some : many);
+                }
+            }
+        }
+    }
+
+    private static void callAll(Method method, Supplier<HoopLane> state, int[] values) {
+        Object[] arguments = new Object[method.getParameterCount()];
+        int all = (int) Math.pow(values.length, arguments.length);
+        HoopLane x = state.get();
+        int thrown = 0;
+        for (int k = 0; k < all; k++) {
+            int rest = k;
+            for (int i = 0; i < arguments.length; i++) {
+                arguments[i] = values[rest % values.length];
+                rest /= values.length;
+            }
+            x = k % 200 == 0 ? state.get() : x;
+            try {
+                method.invoke(x, arguments);
+            } catch (ReflectiveOperationException e) {
+                thrown++;
+                System.out.println(method.getName() + Arrays.toString(arguments) + " threw " + e.getCause());
+            }
+        }
+        Due.is(signed(method) + ": how many calls threw", 0, thrown);
+    }
+
+    /** All that there is room for. */
+    private static HoopLane most() {
+        HoopLane x = Due.told("h9,4,5,3;g" + "ds".repeat(12) + ";v5;i5;o5;b5;t5;");
+        for (int row = 0; row < 8; row++) {
+            x.row(row, row % 3, 40);
+            x.set(row, 1, row - 1);
+            x.set(row, 24, 1000000);
+        }
+        x.image(0);
+        x.image(1);
+        for (int k = 0; k < 30; k++) {
+            x.lay(k % 24, k % 6);
+        }
+        Due.feed(x, "9".repeat(100));
+        x.ask(1, 0);
+        return x;
     }
 }

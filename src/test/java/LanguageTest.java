@@ -4,14 +4,16 @@ import java.lang.reflect.Modifier;
 import java.nio.charset.StandardCharsets;
 import java.nio.file.Files;
 import java.nio.file.Path;
+import java.util.ArrayList;
 import java.util.Arrays;
 import java.util.List;
+import java.util.Set;
 import java.util.TreeSet;
 import java.util.function.Supplier;
 import java.util.regex.Matcher;
 import java.util.regex.Pattern;
 
-/** The face of the class, and those rules of LANGUAGE.md that a look at the class and its text can tell. */
+/** The face of the class, and those rules of LANGUAGE.md that a look at the class, its text, or many calls can tell. */
 public final class LanguageTest {
     private static final String[] FACE = {"int row(int, int, int)", "int set(int, int, int)",
         "int copy(int, int, int, int, int)", "int drop(int)", "int feed(int)", "int lane()", "int fault()", "int undo()",
@@ -21,22 +23,42 @@ public final class LanguageTest {
         "int falls()", "int mend(int)", "long miss(int, int, int, int, int)", "int drawn(int, int, int)",
         "int image(int)", "int restore(int)", "int kind(int)", "int as(int, int)", "int ask(int, int)",
         "int trace(int)", "int count(int)", "int status()"};
-    private static final String[] REFUSED = {"throw", "throws", "try", "catch", "finally", "synchronized", "assert",
-        "native", "volatile", "transient", "var", "goto", "System\\.(?!arraycopy)\\w+", "\\w+Exact", "equals", "hashCode",
-        "toString", "Object", "Thread", "Random", "protected"};
-
+    private static final Set<String> LIBRARY = Set.of("java.util.Arrays", "java.util.ArrayList", "java.util.List",
+        "java.util.Iterator");
+    private static final Set<String> TYPES = Set.of("java.lang.String", "java.lang.StringBuilder", "java.lang.Integer",
+        "java.util.ArrayList", "java.util.List", "java.util.Iterator", "void");
     /** The first line of a method of the class, or of one inside it. */
     private static final String METHOD = "( {4}| {8})(?!for |while |if |switch |else |do )\\w.*\\(.*\\{";
 
     public static void main(String[] args) throws Exception {
-        face();
-        classes();
-        constants();
         String source = Files.readString(Path.of("src/main/java/HoopLane.java"), StandardCharsets.ISO_8859_1);
-        text(source);
-        made(source);
+        String code = source.replaceAll("(?s)/\\*.*?\\*/", "").replaceAll("//[^\n]*", "")
+            .replaceAll("'(\\\\.|[^\\\\])[^']*'", "0").replaceAll("\"([^\"\\\\]|\\\\.)*\"", "0");
+        face();
+        constants();
+        noPrivateNamesake();
+        classesInside(code);
+        types();
+        library(code);
+        staticFields(code);
+        refusedWords(code);
         anyArguments();
+        sizes(source);
+        outside(code);
         Due.end();
+    }
+
+    private static List<Class<?>> classes() {
+        List<Class<?>> all = new ArrayList<>(List.of(HoopLane.class));
+        for (int k = 0; k < all.size(); k++) {
+            all.addAll(List.of(all.get(k).getDeclaredClasses()));
+        }
+        return all;
+    }
+
+    private static void finds(String what, String code, String words) {
+        Matcher m = Pattern.compile(words).matcher(code);
+        Due.is(what + (m.find() ? ": " + m.group() : ""), 0, m.reset().find() ? 1 : 0);
     }
 
     private static String signed(Method method) {
@@ -44,62 +66,31 @@ public final class LanguageTest {
         return method.getReturnType() + " " + method.getName() + "(" + types.substring(1, types.length() - 1) + ")";
     }
 
+    // ---- rule 1
+
     private static void face() {
         Class<?> c = HoopLane.class;
-        Due.holds("public and final", Modifier.isPublic(c.getModifiers()) && Modifier.isFinal(c.getModifiers()));
-        Due.holds("of no other class", c.getSuperclass() == Object.class && c.getInterfaces().length == 0);
-        Due.holds("no package", c.getPackageName().isEmpty());
-        Due.holds("one constructor", c.getDeclaredConstructors().length == 1 && c.getConstructors().length == 1
+        Due.holds("1: public and final", Modifier.isPublic(c.getModifiers()) && Modifier.isFinal(c.getModifiers()));
+        Due.holds("1: no package", c.getPackageName().isEmpty());
+        Due.holds("1: the constructor", c.getDeclaredConstructors().length == 1 && c.getConstructors().length == 1
             && c.getConstructors()[0].getParameterCount() == 0);
         TreeSet<String> open = new TreeSet<>();
         for (Method method : c.getDeclaredMethods()) {
-            if (!Modifier.isPrivate(method.getModifiers())) {
-                Due.holds(method + " is of the object", !Modifier.isStatic(method.getModifiers()));
-                open.add(signed(method));
+            if (!Modifier.isPrivate(method.getModifiers()) && !method.isSynthetic()) {
+                open.add((Modifier.isStatic(method.getModifiers()) ? "static " : "") + signed(method));
+                Due.holds("1: " + method + " is public", Modifier.isPublic(method.getModifiers()));
             }
         }
-        Due.holds("the methods of the face, and no other: " + open, open.equals(new TreeSet<>(List.of(FACE))));
+        Due.holds("1: the methods of the face, and no other: " + open, open.equals(new TreeSet<>(List.of(FACE))));
         TreeSet<String> fields = new TreeSet<>();
         for (Field field : c.getDeclaredFields()) {
-            if (!Modifier.isPrivate(field.getModifiers())) {
+            if (!Modifier.isPrivate(field.getModifiers()) && !field.isSynthetic()) {
                 fields.add(field.getName());
-                Due.holds(field + " is a constant", field.getModifiers() == (Modifier.PUBLIC | Modifier.STATIC | Modifier.FINAL)
-                    && field.getType() == int.class);
+                int open4 = Modifier.PUBLIC | Modifier.STATIC | Modifier.FINAL;
+                Due.holds("1: " + field + " is a constant", field.getModifiers() == open4 && field.getType() == int.class);
             }
         }
-        Due.holds("the constants, and no other: " + fields, fields.equals(new TreeSet<>(List.of("NONE", "BAD", "STATE", "FULL"))));
-    }
-
-    private static void classes() {
-        TreeSet<String> open = new TreeSet<>();
-        for (String signature : FACE) {
-            open.add(signature.replaceAll("\\w+ (\\w+)\\(.*", "$1"));
-        }
-        Class<?>[] inside = HoopLane.class.getDeclaredClasses();
-        Due.holds("at most twelve classes", inside.length < 12);
-        for (Class<?> c : inside) {
-            Due.holds(c + " is static and not public", Modifier.isStatic(c.getModifiers()) && !Modifier.isPublic(c.getModifiers()));
-            Due.holds(c + " has no classes", c.getDeclaredClasses().length == 0);
-            checkClass(c, open, false);
-        }
-        checkClass(HoopLane.class, open, true);
-    }
-
-    private static void checkClass(Class<?> c, TreeSet<String> open, boolean outer) {
-        for (Method method : c.getDeclaredMethods()) {
-            Due.holds(method + ": at most seven parameters", method.getParameterCount() <= 7);
-            boolean isPrivate = !outer || Modifier.isPrivate(method.getModifiers());
-            Due.holds(method + ": not the name of a public one", !isPrivate || !open.contains(method.getName()));
-        }
-        int fields = 0;
-        for (Field field : c.getDeclaredFields()) {
-            if (Modifier.isStatic(field.getModifiers())) {
-                Due.holds(field + " is final", Modifier.isFinal(field.getModifiers()));
-            } else {
-                fields++;
-            }
-        }
-        Due.holds(c + ": at most twenty fields", fields <= 20);
+        Due.holds("1: the constants, and no other: " + fields, fields.equals(Set.of("NONE", "BAD", "STATE", "FULL")));
     }
 
     private static void constants() {
@@ -109,51 +100,94 @@ public final class LanguageTest {
         Due.is("FULL", -1000003, HoopLane.FULL);
     }
 
-    private static void text(String source) {
-        for (int k = 0; k < source.length(); k++) {
-            if (source.charAt(k) > 126) {
-                Due.holds("a sign that is not ASCII at " + k, false);
+    private static void noPrivateNamesake() {
+        TreeSet<String> open = new TreeSet<>();
+        for (String signature : FACE) {
+            open.add(signature.replaceAll("\\w+ (\\w+)\\(.*", "$1"));
+        }
+        for (Class<?> c : classes()) {
+            for (Method method : c.getDeclaredMethods()) {
+                if (Modifier.isPrivate(method.getModifiers()) && !method.isSynthetic()) {
+                    Due.holds("1: " + method + " has not the name of a public one", !open.contains(method.getName()));
+                }
             }
         }
-        String code = source.replaceAll("(?s)/\\*.*?\\*/", "").replaceAll("//[^\n]*", "").replaceAll("'(\\\\.|.)'", "0");
-        for (String word : REFUSED) {
-            Matcher m = Pattern.compile("\\b" + word + "\\b").matcher(code);
-            Due.holds("no " + word, !m.find());
+    }
+
+    // ---- rules 2 to 6
+
+    private static void classesInside(String code) {
+        for (Class<?> c : classes()) {
+            if (c != HoopLane.class) {
+                Due.holds("2: " + c + " is static", Modifier.isStatic(c.getModifiers()));
+                Due.holds("1: " + c + " is private or package-visible",
+                    !Modifier.isPublic(c.getModifiers()) && !Modifier.isProtected(c.getModifiers()));
+            }
         }
-        Due.holds("no lambda, no method reference", !code.contains("->") && !code.contains("::"));
-        Due.holds("no text", !code.contains("\""));
+        finds("2: a method reference", code, "::");
+        finds("2: a lambda", code.replaceAll("(case [^;{}]*?|default )->", ""), "->");
+        finds("2: an anonymous class", code, "new \\w+(<\\w*>)?\\([^;{}]*\\) *\\{");
+    }
+
+    private static boolean isOfLanguage(Class<?> type) {
+        Class<?> one = type;
+        int dimensions = 0;
+        while (one.isArray()) {
+            one = one.getComponentType();
+            dimensions++;
+        }
+        boolean own = classes().contains(one);
+        return dimensions == 0 ? one.isPrimitive() || own || TYPES.contains(one.getName())
+            : dimensions == 1 ? one.isPrimitive() || own : dimensions == 2 && one.isPrimitive() && one != boolean.class;
+    }
+
+    private static void types() {
+        for (Class<?> c : classes()) {
+            for (Field field : c.getDeclaredFields()) {
+                Due.holds("3: the type of " + field, field.isSynthetic() || isOfLanguage(field.getType()));
+            }
+            for (Method method : c.getDeclaredMethods()) {
+                Due.holds("3: the answer of " + method, method.isSynthetic() || isOfLanguage(method.getReturnType()));
+                for (Class<?> type : method.getParameterTypes()) {
+                    Due.holds("3: the parameters of " + method, method.isSynthetic() || isOfLanguage(type));
+                }
+            }
+        }
+    }
+
+    private static void library(String code) {
         Matcher imports = Pattern.compile("import ([^;]*);").matcher(code);
         while (imports.find()) {
-            Due.holds("import " + imports.group(1), imports.group(1).equals("java.util.Arrays"));
+            Due.holds("4: import " + imports.group(1), LIBRARY.contains(imports.group(1)));
         }
-        int start = 0;
-        String[] lines = source.split("\n");
-        for (int k = 0; k < lines.length; k++) {
-            if (lines[k].matches(METHOD)) {
-                start = k;
-            }
-            if (lines[k].matches("( {4}| {8})\\}")) {
-                Due.holds("line " + (start + 1) + ": at most sixty lines", k - start < 60 || lines[start].contains("class"));
-            }
-        }
+        finds("4: of System", code, "\\bSystem\\.(?!arraycopy\\()\\w+");
+        finds("4: of Arrays", code, "\\bArrays\\.(?!(copyOf|copyOfRange|fill)\\()\\w+");
+        finds("4: a name that ends in Exact", code, "\\w+Exact\\b");
+        finds("4: named in full", code.replaceAll("import [^;]*;", ""), "\\bjavax?\\.");
     }
 
-    /** No call makes an object: what is made stands in a field's initialiser, or in a constructor. */
-    private static void made(String source) {
-        String in = "";
-        for (String line : source.split("\n")) {
-            if (line.matches(METHOD)) {
-                in = line.trim();
-            }
-            boolean isField = line.matches("( {4}| {8})(private )?(static )?final .*");
-            boolean isConstructor = in.matches("(public HoopLane|Acts)\\(\\) \\{");
-            if (line.matches(".*\\bnew\\b.*") && !line.matches(" *(/?\\*|//).*")) {
-                Due.holds("made within a call: " + line.trim(), isField || isConstructor);
+    private static void staticFields(String code) {
+        for (Class<?> c : classes()) {
+            for (Field field : c.getDeclaredFields()) {
+                if (Modifier.isStatic(field.getModifiers()) && !field.isSynthetic()) {
+                    Class<?> of = field.getType().getComponentType();
+                    boolean isRow = of == int.class || of == long.class || of == char.class || of == byte.class;
+                    Due.holds("5: " + field + " is final", Modifier.isFinal(field.getModifiers()));
+                    Due.holds("5: " + field + " is a constant, or an array of numbers", of == null || isRow
+                        || of.isEnum());
+                }
             }
         }
+        finds("5: a static initialiser", code, "static\\s*\\{");
     }
 
-    /** Rule 7: no call throws, whatever its arguments, in whatever state. */
+    private static void refusedWords(String code) {
+        finds("6: a word", code, "\\b(throw|throws|try|catch|finally|synchronized|assert)\\b");
+    }
+
+    // ---- rule 7
+
+    /** No call throws, whatever its arguments, in whatever state. */
     private static void anyArguments() {
         List<Supplier<HoopLane>> states = List.of(HoopLane::new, Given::noLane, Given::rolling, Given::down, Given::home,
             LanguageTest::most);
@@ -207,5 +241,37 @@ public final class LanguageTest {
         Due.feed(x, "9".repeat(100));
         x.ask(1, 0);
         return x;
+    }
+
+    // ---- rules 11, 13
+
+    private static void sizes(String source) {
+        int all = classes().size();
+        Due.holds("11: " + all + " classes are some twelve", all <= 13);
+        for (Class<?> c : classes()) {
+            int fields = 0;
+            for (Field field : c.getDeclaredFields()) {
+                fields += Modifier.isStatic(field.getModifiers()) ? 0 : 1;
+            }
+            Due.holds("11: " + fields + " fields of " + c + " are some twenty", fields <= 22);
+            for (Method method : c.getDeclaredMethods()) {
+                Due.holds("11: " + method + " takes seven parameters at most", method.getParameterCount() <= 7);
+            }
+        }
+        int start = 0;
+        String[] lines = source.split("\n");
+        for (int k = 0; k < lines.length; k++) {
+            if (lines[k].matches(METHOD)) {
+                start = k;
+            }
+            if (lines[k].matches("( {4}| {8})\\}") && !lines[start].contains("class ")) {
+                Due.holds("11: the method of line " + (start + 1) + " has some sixty lines", k - start < 66);
+            }
+        }
+    }
+
+    private static void outside(String code) {
+        finds("13: a clock, a draw, a file, a thread", code,
+            "\\b(Thread|Random|random|File|Files|Socket|Instant|nanoTime|currentTimeMillis|getenv|Runtime|Process)\\b");
     }
 }

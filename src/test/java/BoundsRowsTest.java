@@ -459,7 +459,27 @@ public final class BoundsRowsTest {
         status("BAD of an ITEM, NULL ahead of it", 1, x -> x.set(0, 0, 9) + x.set(7, 0, 0) + x.plan(0, 0, 1, 0));
         status("BAD of an ITEM, too", 1, x -> x.set(0, 0, 9) + x.set(7, 0, 0) + x.miss(0, 0, 1, 5, 0));
         status("STATE of a call with a ROW", 3, x -> x.setUp(12, 9, 0) + x.moment(-1) + x.seen(0, 0, 1, 0));
-        status("calls without a ROW", 3, x -> x.moment(0) + x.ask(0, 1) + x.kind(0) + x.falls() + x.undo());
+        statusStays();
+    }
+
+    /** Calls without a ROW, be they refused or not. */
+    private static void statusStays() {
+        status("moment()", 3, x -> x.moment(0) + x.moment(9));
+        status("setUp()", 3, x -> x.setUp(0, 1, 0) + x.setUp(99, 1, 0));
+        status("lay()", 3, x -> x.lay(0, 1) + x.lay(99, 1));
+        status("undo()", 3, x -> x.undo() + x.undo() + x.undo() + x.undo());
+        status("feed(), lane() with a FAULT", 3, x -> x.feed(1) + x.feed(256) + x.lane() + x.fault());
+        status("lane()", 3, x -> x.lane() + Due.read(x, "h5,3,3,1;gfff;v1;"));
+        status("hoop()", 3, x -> x.hoop(0) + x.hoop(9));
+        status("ground(), force()", 3, x -> x.ground(0) + x.ground(99) + x.force(0) + x.force(9));
+        status("ahead()", 3, x -> x.ahead(1, 0) + x.ahead(99, 0));
+        status("fewest(), soonest()", 3, x -> x.fewest(0) + x.fewest(9) + x.soonest(0) + x.soonest(9));
+        status("heldFrom(), righted()", 3, x -> x.heldFrom() + x.righted());
+        status("falls(), mend()", 3, x -> x.falls() + x.mend(0) + x.mend(9));
+        status("drawn()", 3, x -> x.drawn(9, 9, 0) + x.drawn(9, 0, 0));
+        status("image(), restore()", 3, x -> x.image(1) + x.image(9) + x.restore(1) + x.restore(9));
+        status("kind(), ask(), trace()", 3, x -> x.kind(0) + x.kind(9) + x.ask(0, 0) + x.ask(9, 0) + x.trace(0));
+        status("count(), status()", 3, x -> x.count(0) + x.count(9) + x.status());
     }
 
     private static void statusNone() {

@@ -122,6 +122,11 @@ public final class BoundsForetoldTest {
         // One in each MOMENT but the last, the most that there can be.
         fewest("h1,2,1,1;g" + "r".repeat(24) + ";v1;", 23, 0);
         fewest("h9,2,5,0;" + FLAT + "v5;", 0, Due.NONE);
+        // From the least and the most that YARD, PACE, LEAN can be.
+        Due.is("of the least", 0, Given.standing("h5,2,5,0;gf;v5;", 0, 1, -5).fewest(0));
+        Due.is("of the least, on", 1, Given.standing("h5,2,5,0;gfff;o5;", 0, 1, -5).fewest(0));
+        Due.is("of the most", 0, Given.standing("h5,2,5,0;" + FLAT + "v5;", 23, 9, 5).fewest(0));
+        Due.is("of the most, on", 0, Given.standing("h5,2,5,0;" + FLAT + "v5;", 0, 9, 5).fewest(0));
     }
 
     private static void fewestOfHome() {
@@ -292,6 +297,9 @@ public final class BoundsForetoldTest {
         x.setUp(22, 1, 0);
         Due.is("mend(0), the last YARD that there can be", 23, x.mend(0));
         Due.is("mend(1)", 0, x.mend(1));
+        // Each of 24 YARDS is looked at, and none does better.
+        mend("h1,2,1,1;g" + "r".repeat(24) + ";v1;", 0, 23);
+        mend("h1,2,1,1;g" + "f".repeat(24) + ";v1;", Due.NONE, Due.NONE);
         Due.is("mend(0) HOME", 0, Given.home().mend(0));
         Due.is("mend(1) HOME", 0, Given.home().mend(1));
     }

@@ -400,6 +400,10 @@ public final class BoundsTextsTest {
             } else {
                 fault(whole.substring(0, end), 1, end);
             }
+            HoopLane x = Due.told(whole);
+            int fresh = Due.read(new HoopLane(), whole.substring(0, end));
+            Due.is("bytes of the tape before do not stand behind " + whole.substring(0, end), fresh,
+                Due.read(x, whole.substring(0, end)));
         }
     }
 
